@@ -91,6 +91,22 @@ public final class BestTest {
         x.set(0, 8, 9999);
         Check.due("work is held: of several the least", x.kind(0, 60), 0);
         oneThatGoesNearer();
+        kindsThatWait();
+    }
+
+    private static void kindsThatWait() {
+        VarnishNight x = new VarnishNight();
+        Check.night(x, "sitter 0 0 nose 22; wife 0 1 lit; wants 1 dark");
+        // Seen till the lamp is out in hour 1: 17, 13, 11, 9, where a sitter does 18, 14, 10.
+        Check.due("a mayor that had to wait", x.kind(0, 60), 1);
+        x = new VarnishNight();
+        Check.night(x, "sitter 0 0 nose 18; sitter 0 0 nose 26");
+        // Waits for 1 till hour 4: 15, 12, 9, where a sitter does 14, 10.
+        Check.due("a head that had to wait", x.kind(0, 60), 5);
+        x = new VarnishNight();
+        Check.night(x, "sitter 0 2 nose 31 lit; mayor 0 14 nose 61 lit; wants 0 nearer 1; wants 1 nearer 0; tacky 5");
+        // By 10 into the mayor's sight, who stays then; and 1 more in the next even hour.
+        Check.due("an alderman that came too close", x.kind(0, 60), 4);
     }
 
     /** Where the paint is soft at first, one who starts later takes more steps. */
@@ -162,6 +178,11 @@ public final class BestTest {
         y.set(0, 5, 3);
         Check.due("only 1 and 3", y.clash(60), 13);
         Check.due("nothing changed", y.of(1, 2), 1);
+        y.set(0, 5, 1);
+        Check.due("0 and 1 again", y.clash(60), 1);
+        y.set(0, 5, 0);
+        y.set(3, 5, 0);
+        Check.due("what was asked before is forgotten", y.clash(60), Check.NONE);
     }
 
     private static void clashOnlyIfEachIsContentOnce() {

@@ -7,7 +7,9 @@ public final class ImagesTest {
         notKept();
         count();
         status();
+        everyFindingIsCounted();
         findingsChangeNothing();
+        aFreshOneAfterUndo();
         Check.end();
     }
 
@@ -154,5 +156,101 @@ public final class ImagesTest {
         x.undo();
         Check.due("each was a finding", x.status(-1), 14);
         Check.holds("findings change nothing", before.equals(Check.told(x)));
+    }
+
+    private static void counted(VarnishNight x, long answer, long finding) {
+        int which = (int) (Check.BEYOND - finding);
+        Check.due("the finding", answer, finding);
+        seen[which]++;
+        Check.due("status(" + which + ")", x.status(which), seen[which]);
+        Check.due("status(-1)", x.status(-1), java.util.stream.IntStream.of(seen).sum());
+    }
+
+    private static final int[] seen = new int[7];
+
+    private static void everyFindingIsCounted() {
+        VarnishNight x = new VarnishNight();
+        counted(x, x.porter(1), Check.NONE);
+        counted(x, x.by(1, 1), Check.NONE);
+        counted(x, x.clash(1), Check.NONE);
+        counted(x, x.undo(), Check.NONE);
+        x.figure(3, 0, 0);
+        counted(x, x.when(0), Check.NONE);
+        counted(x, x.all(), Check.NONE);
+        counted(x, x.as(0, 5), Check.KIND);
+        counted(x, x.lays(0), Check.MISSING);
+        counted(x, x.book(0, 0), Check.MISSING);
+        counted(x, x.read(0, 0), Check.MISSING);
+        counted(x, x.write(0, 0, 0), Check.MISSING);
+        counted(x, x.copy(0, 0, 1, 0, 0), Check.MISSING);
+        x.sheet(0, 8, 1);
+        x.sheet(1, 16, 1);
+        counted(x, x.copy(0, 0, 1, 0, 0), Check.KIND);
+        counted(x, x.copy(0, 0, 0, 0, 2), Check.BEYOND);
+        counted(x, x.copy(0, 0, 4, 0, 0), Check.BEYOND);
+        counted(x, x.sheet(0, 0, -1), Check.SIZE);
+        counted(x, x.sheet(0, 0, 41), Check.BEYOND);
+        counted(x, x.sheet(0, 1, 1), Check.BEYOND);
+        counted(x, x.write(4, 0, 0), Check.BEYOND);
+        counted(x, x.write(0, 1, 0), Check.BEYOND);
+        counted(x, x.lays(4), Check.BEYOND);
+        counted(x, x.book(4, 0), Check.BEYOND);
+        counted(x, x.book(0, 1), Check.BEYOND);
+        counted(x, x.read(4, 0), Check.BEYOND);
+        counted(x, x.read(0, 1), Check.BEYOND);
+        counted(x, x.tacky(9), Check.BEYOND);
+        counted(x, x.now(8), Check.BEYOND);
+        counted(x, x.hangs(4), Check.BEYOND);
+        counted(x, x.figure(6, 0, 0), Check.BEYOND);
+        counted(x, x.of(1, 0), Check.BEYOND);
+        counted(x, x.of(0, 12), Check.BEYOND);
+        counted(x, x.set(0, 0, 0), Check.BEYOND);
+        counted(x, x.seen(1), Check.BEYOND);
+        counted(x, x.turn(0, 6), Check.BEYOND);
+        counted(x, x.as(0, 6), Check.BEYOND);
+        counted(x, x.hours(0), Check.BEYOND);
+        counted(x, x.on(0, 0, 4), Check.BEYOND);
+        counted(x, x.when(1), Check.BEYOND);
+        counted(x, x.many(201), Check.BEYOND);
+        counted(x, x.porter(0), Check.BEYOND);
+        counted(x, x.by(1, 9), Check.BEYOND);
+        counted(x, x.kind(0, 0), Check.BEYOND);
+        counted(x, x.place(0, 0), Check.BEYOND);
+        counted(x, x.clash(0), Check.BEYOND);
+        counted(x, x.want(0, 0), Check.BEYOND);
+        counted(x, x.nose(0, 41), Check.BEYOND);
+        counted(x, x.feed(0, 0), Check.BEYOND);
+        counted(x, x.count(4), Check.BEYOND);
+        counted(x, x.status(7), Check.BEYOND);
+        for (int i = 0; i < 7; i++) {
+            x.figure(3, 0, 0);
+        }
+        counted(x, x.figure(3, 0, 0), Check.FULL);
+        for (int i = 0; i < 30; i++) {
+            x.feed(0, 4);
+        }
+        counted(x, x.feed(0, 1), Check.FULL);
+        x.sheet(2, 64, 1);
+        x.write(2, 0, Check.MISSING);
+        Check.due("what looks like a finding is none", x.write(2, 0, 0), Check.MISSING);
+        Check.due("status(5)", x.status(5), seen[5]);
+    }
+
+    private static void aFreshOneAfterUndo() {
+        VarnishNight x = new VarnishNight();
+        x.figure(0, 0, 0);
+        x.image();
+        x.figure(4, 3, 19);
+        int[] other = {0, 2, 18, 3, 1, 4, 0, 1, 77};
+        for (int what = 1; what <= 8; what++) {
+            x.set(1, what, other[what]);
+        }
+        x.undo();
+        Check.due("it is gone", x.of(1, 0), Check.BEYOND);
+        Check.due("figure(2, 1, 5)", x.figure(2, 1, 5), 1);
+        long[] first = {2, 1, 5, 50, 0, 0, -1, 0, 0};
+        for (int what = 0; what <= 8; what++) {
+            Check.due("of(1, " + what + ")", x.of(1, what), first[what]);
+        }
     }
 }

@@ -81,6 +81,13 @@ public final class NightTest {
         Check.due("who is seen", x.now(5), 10);
         Check.due("who is out", x.now(6), 10);
         Check.due("work of all", x.now(7), 10006);
+        x.turn(0, 3);
+        x.set(0, 2, 4);
+        x.set(1, 4, 1);
+        Check.due("0 waits, too", x.now(4), 7);
+        Check.due("0 is seen, too", x.now(5), 11);
+        x.set(0, 7, 1);
+        Check.due("0 is out, too", x.now(6), 11);
     }
 
     private static void hangs() {
