@@ -21,6 +21,9 @@ public final class SheetsTest {
             Check.due("write(0, 39, 5)", x.write(0, 39, 5), 0);
             Check.due("sheet(0, " + bits + ", 40) again", x.sheet(0, bits, 40), 40);
             Check.due("all 0", x.write(0, 39, 5), 0);
+            x.write(0, 0, 6);
+            x.sheet(0, bits, 3);
+            Check.due("the first, too", x.write(0, 0, 6), 0);
             Check.due("sheet(0, " + bits + ", 0)", x.sheet(0, bits, 0), 0);
             Check.due("it has none", x.write(0, 0, 5), Check.BEYOND);
         }
