@@ -241,6 +241,18 @@ public final class HoursTest {
         Check.due("when(1)", x.when(1), Check.BEYOND);
         Check.due("when(-1)", x.when(-1), Check.BEYOND);
         Check.due("status(3)", x.status(3), 1);
+        slow();
+    }
+
+    /** The slowest night known: the wife needs 45 hours of 7 in 8, and only then the head its 30. */
+    private static void slow() {
+        VarnishNight x = new VarnishNight();
+        Check.night(x, "head 0 3 nose 99; wife 0 19 nose 99; tacky 0");
+        Check.due("the wife", x.when(1), 52);
+        Check.due("the head", x.when(0), 86);
+        Check.due("all()", x.all(), 86);
+        Check.due("many(85)", x.many(85), 1);
+        Check.due("many(86)", x.many(86), 2);
     }
 
     private static void all() {
