@@ -29,6 +29,14 @@ final class Check {
         }
     }
 
+    static void same(String what, String got, String want) {
+        asked++;
+        if (!got.equals(want)) {
+            wrong++;
+            System.out.println(what + " it is " + got + "\n due is " + want);
+        }
+    }
+
     static void end() {
         System.out.println(asked + " asked, " + wrong + " wrong");
         if (wrong != 0 || asked == 0) {
@@ -69,7 +77,8 @@ final class Check {
         int was = x.tacky(0);
         x.tacky(was);
         all.append(was);
-        for (int figure = 0; figure < x.count(0); figure++) {
+        int figures = x.count(0);
+        for (int figure = 0; figure < figures; figure++) {
             all.append(" |");
             for (int what = 0; what <= 11; what++) {
                 all.append(' ').append(x.of(figure, what));
