@@ -22,6 +22,7 @@ public final class BestBoundsTest {
         placeAtItsBounds();
         placeBeyond();
         clashAtItsBounds();
+        clashAnew();
         clashBeyond();
         clashNone();
         wantAtItsBounds();
@@ -206,6 +207,17 @@ public final class BestBoundsTest {
             }
         }
         Twin.asked("one that is out: the least", 0, Twin::rich, x -> x.kind(1, 60));
+        Twin.asked("the first that came", 2, x -> nose(x, 50), x -> x.kind(0, 60));
+        // Only a fisher is never best: it does no work.
+        String[] best = {"fisher 0 0 nose 12", "sitter 0 0 nose 22; wife 0 1 lit; wants 1 dark", "fisher 0 0", "",
+            "sitter 0 2 nose 31 lit; mayor 0 14 nose 61 lit; wants 0 nearer 1; wants 1 nearer 0; tacky 5",
+            "sitter 0 0 nose 18; sitter 0 0 nose 26"};
+        for (int i = 0; i < best.length; i++) {
+            String text = best[i];
+            if (!text.isEmpty()) {
+                Twin.asked("'" + text + "': kind(0, 60)", i, x -> tell(x, text), x -> x.kind(0, 60));
+            }
+        }
     }
 
     private static void kindBeyond() {
@@ -350,6 +362,18 @@ public final class BestBoundsTest {
         x.set(0, 6, 7);
         x.set(7, 5, 2);
         x.set(7, 6, 0);
+    }
+
+    /** What an earlier clash() found is not in the way of a later one. */
+    private static void clashAnew() {
+        VarnishNight x = made(BestBoundsTest::firstAndLast);
+        Check.due("the first and the last", x.clash(60), 7);
+        x.set(7, 7, 1);
+        Check.due("the last is out", x.clash(60), Check.NONE);
+        x.set(7, 7, 0);
+        Check.due("the last is in", x.clash(60), 7);
+        x.set(0, 5, 0);
+        Check.due("the first has another want", x.clash(60), Check.NONE);
     }
 
     private static void clashBeyond() {

@@ -12,6 +12,7 @@ public final class FiguresTest {
         waits();
         headsWait();
         content();
+        contentByColumns();
         Check.end();
     }
 
@@ -243,15 +244,6 @@ public final class FiguresTest {
             x.set(0, 6, 0);
             Check.due("itself, want " + want, x.of(0, 11), 1);
             x.set(0, 6, 1);
-            for (int mine = 0; mine <= 19; mine++) {
-                for (int its = 0; its <= 19; its++) {
-                    x.set(0, 2, mine);
-                    x.set(1, 2, its);
-                    int apart = Math.abs(mine - its);
-                    boolean is = want == 1 ? apart <= 1 : apart >= 10;
-                    Check.due("want " + want + ", " + mine + " and " + its, x.of(0, 11), is ? 1 : 0);
-                }
-            }
             x.set(0, 2, 0);
             x.set(1, 2, 5);
             x.set(1, 1, 3);
@@ -266,5 +258,22 @@ public final class FiguresTest {
         Check.due("want 4, lit", x.of(0, 11), 1);
         x.set(0, 4, 0);
         Check.due("want 4, out", x.of(0, 11), 0);
+    }
+
+    private static void contentByColumns() {
+        for (int mine = 0; mine <= 19; mine++) {
+            VarnishNight x = new VarnishNight();
+            x.figure(0, 0, mine);
+            x.figure(0, 0, 0);
+            x.set(0, 6, 1);
+            for (int its = 0; its <= 19; its++) {
+                x.set(1, 2, its);
+                int apart = Math.abs(mine - its);
+                x.set(0, 5, 1);
+                Check.due("want 1, " + mine + " and " + its, x.of(0, 11), apart <= 1 ? 1 : 0);
+                x.set(0, 5, 2);
+                Check.due("want 2, " + mine + " and " + its, x.of(0, 11), apart >= 10 ? 1 : 0);
+            }
+        }
     }
 }

@@ -10,6 +10,7 @@ public final class HoursBoundsTest {
         hoursState();
         stateComesAfterBeyond();
         onIsWhatHoursBring();
+        onEachThing();
         onBeyond();
         whenAtItsBounds();
         whenBeyond();
@@ -117,6 +118,25 @@ public final class HoursBoundsTest {
                 }
             }
         }
+    }
+
+    /** Each of the four changes in an hour, and in the hour before it is as it was. */
+    private static void onEachThing() {
+        int[][] due = {{0, 8, 4}, {1, 50, 46}, {2, 0, 1}, {3, 0, 1}};
+        int[] wants = {2, 0, 4, 0};
+        for (int i = 0; i < due.length; i++) {
+            int[] d = due[i];
+            int want = wants[i];
+            Twin.asked("on(0, 0, " + d[0] + ")", d[1], x -> wanting(x, want), x -> x.on(0, 0, d[0]));
+            Twin.asked("on(0, 1, " + d[0] + ")", d[2], x -> wanting(x, want), x -> x.on(0, 1, d[0]));
+        }
+    }
+
+    private static void wanting(VarnishNight x, int want) {
+        x.figure(0, 0, 8);
+        x.figure(3, 0, 9);
+        x.set(0, 5, want);
+        x.set(0, 6, 1);
     }
 
     private static void onBeyond() {

@@ -42,6 +42,21 @@ public final class ImagesBoundsTest {
         Check.due("count(0)", y.count(0), 0);
         Check.due("nobody hangs there", y.hangs(0), 0);
         Check.due("there is room for the first", y.figure(0, 0, 0), 0);
+        anew();
+    }
+
+    /** One that comes where undo() took one away is as every one at first. */
+    private static void anew() {
+        VarnishNight x = new VarnishNight();
+        x.image();
+        Check.night(x, "head 3 19 nose 99 lit; wants 0 farther 0; out 0");
+        x.set(0, 8, 9999);
+        x.undo();
+        x.figure(1, 0, 0);
+        long[] first = {1, 0, 0, 50, 0, 0, -1, 0, 0};
+        for (int what = 0; what <= 8; what++) {
+            Check.due("anew: of(0, " + what + ")", x.of(0, what), first[what]);
+        }
     }
 
     /** Keeping changes nothing that is: image() and undo() at once leave all but what is kept. */

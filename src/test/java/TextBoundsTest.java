@@ -9,7 +9,8 @@ public final class TextBoundsTest {
     /** Every word that the text knows, some that it doesn't, numbers about every bound, the sign, and no token. */
     private static final List<String> TOKENS = List.of(
             "sitter", "mayor", "wife", "fisher", "alderman", "head", "nose", "lit", "wants", "shorter", "dark", "nearer",
-            "farther", "out", "in", "tacky", "a", "z", "sitters", "hea", "inn", "ou", "wantstacky",
+            "farther", "out", "in", "tacky", "a", "z", "sitters", "hea", "inn", "ou", "jn", "titter", "mit",
+            "wantstacky",
             "0", "1", "2", "3", "4", "7", "8", "9", "10", "18", "19", "20", "21", "50", "98", "99", "100", "101", "127",
             "128", "255", "256", "998", "999", "1000", "1001", "4294967296", "4294967297", "18446744073709551616",
             ";", "?", "A", "-", "\t", "\u0000", "\u00a0", "\u00ff");
@@ -395,6 +396,10 @@ public final class TextBoundsTest {
 
     /** Each item at its bounds is what figure(), set() and tacky() would have made of it. */
     private static void itemsComeToWhatThereIs() {
+        for (int i = 0; i < KINDS.size(); i++) {
+            int kind = i;
+            comes(KINDS.get(kind) + " 3 0", x -> x.figure(kind, 3, 0));
+        }
         comes("sitter 0 0 nose 0", x -> {
             x.figure(0, 0, 0);
             x.set(3, 3, 0);
