@@ -1,3 +1,4 @@
+import java.util.List;
 import java.util.function.Consumer;
 
 /** The bounds that the document's terms name: findings, hours, figures, rubs, waits, seen, content, an hour. */
@@ -469,21 +470,33 @@ public final class TermsBoundsTest {
 
     /** "AHEAD: n HOURS go on with all as it is; nothing changes." Whatever is asked, at its greatest n. */
     private static void aheadChangesNothing() {
-        Consumer<VarnishNight> asking = x -> {
-            x.on(0, 200, 0);
-            x.when(0);
-            x.many(200);
-            x.porter(40);
-            x.by(40, 2);
-            x.kind(2, 60);
-            x.place(2, 40);
-            x.want(2, 40);
-            x.nose(2, 40);
-            x.read(1, 2);
-        };
-        Twin.changed("all that is asked ahead", 3, Twin::rich, x -> {
-            asking.accept(x);
-            return x.now(0);
-        }, x -> Check.due("the hour", x.now(0), 3));
+        for (Consumer<VarnishNight> made : List.<Consumer<VarnishNight>>of(Twin::rich, Twin::full)) {
+            VarnishNight one = new VarnishNight();
+            VarnishNight other = new VarnishNight();
+            made.accept(one);
+            made.accept(other);
+            askAhead(one);
+            Check.same("after all that is asked ahead", Twin.everything(one), Twin.everything(other));
+        }
+    }
+
+    private static void askAhead(VarnishNight x) {
+        int figures = x.count(0);
+        for (int figure = 0; figure < figures; figure++) {
+            for (int what = 0; what <= 3; what++) {
+                x.on(figure, 200, what);
+            }
+            x.when(figure);
+            x.kind(figure, 60);
+            x.place(figure, 40);
+            x.want(figure, 40);
+            x.nose(figure, 40);
+            x.read(1, figure);
+        }
+        x.all();
+        x.many(200);
+        x.porter(40);
+        x.by(40, 2);
+        x.clash(60);
     }
 }
